@@ -139,7 +139,8 @@ public final class OrderBench {
         mustBePlace(a);
         mustBePlace(b);
         mustBePlace(c);
-        return c == b || search(out, a, b, c) == NONE;
+        // With c shut, b is out of reach if all paths to it need c (b itself is on all of them) or if there is none.
+        return search(out, a, b, c) == NONE;
     }
 
     public int count(int what) {
