@@ -11,6 +11,7 @@ public final class ModelTest {
     private static final String[] NAMES = {
         "places", "way", "drop", "reaches", "far", "circle", "group", "groups", "order", "level", "paths", "gate",
         "all", "count"};
+    private static final int[] TAKES = {1, 2, 2, 2, 2, 0, 1, 0, 1, 1, 2, 2, 3, 1};
 
     private static int wrong = 0;
     private static long seed = 20261115L;
@@ -360,7 +361,38 @@ public final class ModelTest {
         }
     }
 
+    /** Every bench of up to three places, and every call with every place and the numbers on both sides of them. */
+    private static void everySmallBench() {
+        for (int n = 1; n <= 3; n++) {
+            for (int ways = 0; ways < 1 << n * n; ways++) {
+                OrderBench x = new OrderBench();
+                Model m = new Model();
+                compare(-n, x, m, 0, n, 0, 0);
+                for (int pair = 0; pair < n * n; pair++) {
+                    if ((ways >> pair & 1) == 1) {
+                        compare(-n, x, m, 1, pair / n, pair % n, 0);
+                    }
+                }
+                askAll(x, m, n);
+            }
+        }
+    }
+
+    private static void askAll(OrderBench x, Model m, int n) {
+        for (int call = 3; call < NAMES.length; call++) {
+            int last = call == 13 ? 4 : n;
+            for (int a = -1; a <= (TAKES[call] > 0 ? last : -1); a++) {
+                for (int b = -1; b <= (TAKES[call] > 1 ? n : -1); b++) {
+                    for (int c = -1; c <= (TAKES[call] > 2 ? n : -1); c++) {
+                        compare(-n, x, m, call, a, b, c);
+                    }
+                }
+            }
+        }
+    }
+
     public static void main(String[] args) {
+        everySmallBench();
         int[] sizes = {1, 2, 3, 4, 5, 6, 8, 10, 20, 40, 63, 64, 65, 100, 119, 120};
         int run = 0;
         for (int round = 0; round < 4; round++) {
