@@ -173,7 +173,8 @@ public final class EdgeTest {
                 Probe x = bench(n);
                 for (int p : new int[] {0, n / 2, n - 1}) {
                     int[] at = filled(PLACES_TAKEN[k], p);
-                    same("place " + p + " of " + n + " in " + WITH_PLACES[k], true, !NO_SUCH.equals(x.ask(WITH_PLACES[k], at)));
+                    boolean taken = !NO_SUCH.equals(x.ask(WITH_PLACES[k], at));
+                    same("place " + p + " of " + n + " in " + WITH_PLACES[k], true, taken);
                 }
                 x.due(NO_SUCH, WITH_PLACES[k], filled(PLACES_TAKEN[k], n));
                 x.due(NO_SUCH, WITH_PLACES[k], filled(PLACES_TAKEN[k], -1));

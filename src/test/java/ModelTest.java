@@ -361,7 +361,7 @@ public final class ModelTest {
         }
     }
 
-    /** Every bench of up to three places, and every call with every place and the numbers on both sides of them. */
+    /** Every bench of up to three places, and every question with every place and the numbers on both sides of them. */
     private static void everySmallBench() {
         for (int n = 1; n <= 3; n++) {
             for (int ways = 0; ways < 1 << n * n; ways++) {
