@@ -449,6 +449,52 @@ public final class EdgeTest {
         y.due(0, "count", 1);
     }
 
+    /** The same call again and again, up to the 512th: each time the same answer. */
+    private static void calls512AllTheSame() {
+        int[] ends = {0, 1, 1, 3, 3, 2, 0, 3};
+        dueUpTo512(ends, 4, "places", 4);
+        dueUpTo512(ends, ARGUMENT, "places", 0);
+        dueUpTo512(ends, true, "way", 0, 1);
+        dueUpTo512(ends, NO_SUCH, "way", 0, 4);
+        dueUpTo512(ends, false, "drop", 1, 0);
+        dueUpTo512(ends, NO_SUCH, "drop", -1, 0);
+        dueUpTo512(ends, true, "reaches", 0, 2);
+        dueUpTo512(ends, false, "reaches", 2, 0);
+        dueUpTo512(ends, 2, "far", 0, 2);
+        dueUpTo512(ends, -1, "far", 2, 0);
+        dueUpTo512(ends, -1, "circle");
+        dueUpTo512(ends, 3, "group", 3);
+        dueUpTo512(ends, 4, "groups");
+        dueUpTo512(ends, 2, "order", 3);
+        dueUpTo512(ends, NO_SUCH, "order", 4);
+        dueUpTo512(ends, 3, "level", 2);
+        dueUpTo512(ends, 2, "paths", 0, 2);
+        dueUpTo512(ends, 3, "gate", 0, 2);
+        dueUpTo512(ends, -1, "gate", 2, 0);
+        dueUpTo512(ends, true, "all", 0, 2, 3);
+        dueUpTo512(ends, false, "all", 0, 2, 1);
+        int[] counts = {4, 4, 1, 0, -1};
+        int[] countsOfRing = {4, 4, 0, 4, -1};
+        int[] ring = line(4, true);
+        for (int what = 0; what < 5; what++) {
+            dueUpTo512(ends, counts[what], "count", what);
+            dueUpTo512(ring, countsOfRing[what], "count", what);
+        }
+        dueUpTo512(ring, 0, "circle");
+        dueUpTo512(ring, 0, "group", 3);
+        dueUpTo512(ring, 1, "groups");
+        dueUpTo512(ring, STATE, "order", 3);
+        dueUpTo512(ring, STATE, "level", 2);
+        dueUpTo512(ring, STATE, "paths", 0, 2);
+    }
+
+    private static void dueUpTo512(int[] ends, Object want, String call, int... at) {
+        Probe x = bench(4, ends);
+        while (x.calls < MOST_CALLS) {
+            x.due(want, call, at);
+        }
+    }
+
     // Promise 2
 
     private static void placesAnswersWhatItWas() {
@@ -943,6 +989,7 @@ public final class EdgeTest {
         check("no IllegalStateException where the face has none", EdgeTest::onlyThreeCallsMindACircle);
         check("An object is used for at most 512 calls after it has been made", EdgeTest::the512thCall);
         check("An object is used for at most 512 calls, all of one kind", EdgeTest::calls512OfWays);
+        check("An object is used for at most 512 calls, all the same", EdgeTest::calls512AllTheSame);
     }
 
     private static void promises2To9() {

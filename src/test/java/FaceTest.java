@@ -5,7 +5,7 @@ import java.lang.reflect.Modifier;
 import java.util.Set;
 import java.util.TreeSet;
 
-/** The class shows the members of the document's face and no others, and none of its methods is named like one of them. */
+/** The class shows the members of the face and no others, and no private method is named like one of them. */
 public final class FaceTest {
     private static final Set<String> FACE = Set.of(
         "int places(int)", "boolean way(int,int)", "boolean drop(int,int)", "boolean reaches(int,int)",
@@ -56,9 +56,14 @@ public final class FaceTest {
         must(constructors.length == 1 && Modifier.isPublic(constructors[0].getModifiers())
             && constructors[0].getParameterCount() == 0, "there is one public constructor, without parameters");
         methods();
+        for (Class<?> inside : OrderBench.class.getDeclaredClasses()) {
+            must(!Modifier.isPublic(inside.getModifiers()) && !Modifier.isProtected(inside.getModifiers()),
+                "a class inside is private or package-visible: " + inside);
+        }
         for (Field f : OrderBench.class.getDeclaredFields()) {
             must(Modifier.isPrivate(f.getModifiers()), "a field is private: " + f);
-            must(!Modifier.isStatic(f.getModifiers()) || Modifier.isFinal(f.getModifiers()), "a static field is final: " + f);
+            must(!Modifier.isStatic(f.getModifiers()) || Modifier.isFinal(f.getModifiers()),
+                "a static field is final: " + f);
         }
         System.out.println("face: " + wrong + " wrong");
         if (wrong != 0) {

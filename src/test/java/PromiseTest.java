@@ -2,7 +2,8 @@ import java.util.NoSuchElementException;
 
 /** For each promise: ordinary inputs, the edges that the document names, and wrong inputs. */
 public final class PromiseTest {
-    private static final int[] NO_PLACES_OF_TEN = {-1, 10, 64, 119, 120, 128, -64, Integer.MIN_VALUE, Integer.MAX_VALUE};
+    private static final int[] NO_PLACES_OF_TEN = {
+        -1, 10, 64, 119, 120, 128, -64, Integer.MIN_VALUE, Integer.MAX_VALUE};
 
     private static int checks = 0;
     private static int wrong = 0;
