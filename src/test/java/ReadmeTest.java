@@ -13,7 +13,7 @@ import java.util.regex.Pattern;
 import java.util.stream.Collectors;
 import java.util.stream.Stream;
 
-/** README.md, as it stands where .ci/run runs: each call that it shows answers what it says, and it names every test. */
+/** README.md, as it stands where .ci/run runs: each call that it shows answers what it says, and each test is named. */
 public final class ReadmeTest {
     private static final String MADE = "OrderBench bench = new OrderBench();";
     private static final Pattern CALL = Pattern.compile("bench\\.(\\w+)\\(([^)]*)\\); +// ([-\\w]+)(:.*)?");
